@@ -1113,7 +1113,7 @@ public final class UrnHeap {
         int read() {
             count = 0;
             int from = 0;
-            while (count < kinds.length) {
+            for (int order = 0; order < kinds.length; order++) {
                 int fault = readOrder(from);
                 if (fault != NOTHING) {
                     return fault;
