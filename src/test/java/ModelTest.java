@@ -1,6 +1,5 @@
 import java.util.ArrayDeque;
 import java.util.ArrayList;
-import java.util.Arrays;
 import java.util.List;
 import java.util.TreeMap;
 import java.util.regex.Matcher;
@@ -8,8 +7,11 @@ import java.util.regex.Pattern;
 
 /** Long runs of calls on UrnHeap and on a second heap that is written another way; all answers are compared. */
 public final class ModelTest {
-    private static final int RUNS = 3000;
-    private static final int CALLS = 512;
+    private static final int RUNS = 12000;
+    /** As many calls as the document promises answers for; the last of them look at all there is to see. */
+    private static final int MOST_CALLS = 512;
+    private static final int LAST_LOOKS = 190;
+    private static final int LOOKS = 23;
 
     private static long seed;
 
@@ -429,13 +431,14 @@ public final class ModelTest {
         return text.substring(0, Math.min(60, text.length()));
     }
 
-    private static int call;
+    private static int calls;
     private static int run;
     private static String last = "";
 
     private static void same(String what, double got, double want) {
+        calls++;
         if (got != want) {
-            System.out.println("ModelTest: run " + run + ", call " + call + " (" + last + "): " + what + " answered " + got
+            System.out.println("ModelTest: run " + run + ", call " + calls + " (" + last + "): " + what + " answered " + got
                     + ", due is " + want);
             System.exit(1);
         }
@@ -446,15 +449,26 @@ public final class ModelTest {
     }
 
     public static void main(String[] args) {
+        int most = 0;
         for (run = 0; run < RUNS; run++) {
             seed = run * 7919L + 17;
+            calls = 0;
             UrnHeap x = new UrnHeap();
             Asked y = new Asked();
             int urns = 3 + pick(22);
             int rounds = pick(3);
-            for (call = 0; call < CALLS; call++) {
+            while (calls < MOST_CALLS - LAST_LOOKS) {
                 oneCall(x, y, urns, rounds);
             }
+            int urn = pick(urns);
+            for (int what = 0; what < LOOKS; what++) {
+                look(x, y, what, urn, pick(4), pick(6));
+            }
+            most = Math.max(most, calls);
+        }
+        if (most > MOST_CALLS) {
+            System.out.println("ModelTest: " + most + " calls on one object");
+            System.exit(1);
         }
         System.out.println("ModelTest: " + RUNS + " runs of calls, all answers are the model's");
     }
@@ -512,11 +526,9 @@ public final class ModelTest {
                 y.past.clear();
             }
             same("restore", x.restore(), y.saved == null ? -15 : y.m.urns.size());
-        } else {
-            compareSome(x, y, a, slot, name);
         }
-        if (call % 8 == 0) {
-            compareSome(x, y, a, slot, name);
+        if (pick(3) == 0) {
+            look(x, y, pick(LOOKS), a, slot, name);
         }
     }
 
@@ -528,52 +540,58 @@ public final class ModelTest {
         same("undo", x.undo(), left < 0 ? -15 : left);
     }
 
-    private static void compareSome(UrnHeap x, Asked y, int a, int slot, int name) {
+    private static void look(UrnHeap x, Asked y, int kind, int a, int slot, int name) {
         boolean has = y.m.has(a);
-        TreeMap<Integer, Integer> depths = y.m.depths(y.m.roots(-1));
-        for (int what = -1; what <= 6; what++) {
-            same("urnOf " + what, x.urnOf(a, what), y.urnOf(a, what));
+        switch (kind) {
+            case 0: for (int what = -1; what <= 6; what++) same("urnOf " + what, x.urnOf(a, what), y.urnOf(a, what)); break;
+            case 1: same("threadOf", x.threadOf(a, slot),
+                    has && slot >= 0 && slot < 4 ? Asked.or(y.m.threads.get(a * 4 + slot)) : -11); break;
+            case 2: same("named", x.named(name), name < 0 || name > 5 ? -11 : Asked.or(y.m.names.get(name))); break;
+            case 3: same("due", x.due(a), Asked.at(y.m.dues, a)); break;
+            case 4: same("due 0", x.due(0), Asked.at(y.m.dues, 0)); break;
+            case 5: same("grey", x.grey(a), Asked.at(y.m.greys, a)); break;
+            case 6: same("grey 0", x.grey(0), Asked.at(y.m.greys, 0)); break;
+            case 7: same("freed", x.freed(a), a > 11 ? -11 : Asked.at(y.m.freed, a)); break;
+            case 8: same("live", x.live(), Asked.bits(depths(y).keySet())); break;
+            case 9: same("liveAgain", x.liveAgain(), Asked.bits(depths(y).keySet())); break;
+            case 10: same("depth", x.depth(a), has ? Asked.or(depths(y).get(a)) : -11); break;
+            case 11: same("keepers", x.keepers(a), has ? y.keepers(a) : -11); break;
+            case 12: same("ring", x.ring(a), has ? y.ring(a) : -11); break;
+            case 13: same("wouldFree", x.wouldFree(), y.wouldFree()); break;
+            case 14: same("ranked", x.ranked(a), y.ranked(a)); break;
+            case 15: for (int what = -1; what <= 16; what++) same("account " + what, x.account(what), y.account(what)); break;
+            case 16: same("reason", x.reason(false), y.reason); break;
+            case 17: same("detail", x.reason(true), y.detail); break;
+            case 18: same("isBalanced", x.isBalanced(), 1); break;
+            case 19: same("meanHeld", x.meanHeld(), y.m.urns.isEmpty() ? 0.0 : (double) heldInAll(y) / y.m.urns.size()); break;
+            case 20: same("liveShare", x.liveShare(), y.m.urns.isEmpty() ? 0.0f : (float) depths(y).size() / y.m.urns.size()); break;
+            case 21:
+                y.line = has ? y.told(a) : y.line;
+                same("tell", x.tell(a), has ? y.line.length() : -11);
+                sameLine(x, y);
+                break;
+            default:
+                y.line = y.heap();
+                same("tellHeap", x.tellHeap(), 24);
+                sameLine(x, y);
         }
-        same("threadOf", x.threadOf(a, slot),
-                has && slot >= 0 && slot < 4 ? Asked.or(y.m.threads.get(a * 4 + slot)) : -11);
-        same("named", x.named(name), name < 0 || name > 5 ? -11 : Asked.or(y.m.names.get(name)));
-        same("due", x.due(a), Asked.at(y.m.dues, a));
-        same("due 0", x.due(0), Asked.at(y.m.dues, 0));
-        same("grey", x.grey(a), Asked.at(y.m.greys, a));
-        same("grey 0", x.grey(0), Asked.at(y.m.greys, 0));
-        same("freed", x.freed(a), a > 11 ? -11 : Asked.at(y.m.freed, a));
-        same("live", x.live(), Asked.bits(depths.keySet()));
-        same("liveAgain", x.liveAgain(), Asked.bits(depths.keySet()));
-        same("depth", x.depth(a), has ? Asked.or(depths.get(a)) : -11);
-        same("keepers", x.keepers(a), has ? y.keepers(a) : -11);
-        same("ring", x.ring(a), has ? y.ring(a) : -11);
-        same("wouldFree", x.wouldFree(), y.wouldFree());
-        same("ranked", x.ranked(a), y.ranked(a));
-        for (int what = -1; what <= 16; what++) {
-            same("account " + what, x.account(what), y.account(what));
-        }
-        same("reason", x.reason(false), y.reason);
-        same("detail", x.reason(true), y.detail);
-        same("isBalanced", x.isBalanced(), 1);
+    }
+
+    private static TreeMap<Integer, Integer> depths(Asked y) {
+        return y.m.depths(y.m.roots(-1));
+    }
+
+    private static int heldInAll(Asked y) {
         int sum = 0;
         for (int urn : y.m.urns.keySet()) {
             sum += y.m.held(urn);
         }
-        int urns = y.m.urns.size();
-        same("meanHeld", x.meanHeld(), urns == 0 ? 0.0 : (double) sum / urns);
-        same("liveShare", x.liveShare(), urns == 0 ? 0.0f : (float) depths.size() / urns);
-        if (pick(2) == 0) {
-            y.line = y.heap();
-            same("tellHeap", x.tellHeap(), 24);
-        } else {
-            y.line = has ? y.told(a) : y.line;
-            same("tell", x.tell(a), has ? y.line.length() : -11);
+        return sum;
+    }
+
+    private static void sameLine(UrnHeap x, Asked y) {
+        for (int i = 0; i <= y.line.length(); i++) {
+            same("sign " + i + " of " + y.line, x.character(i), i < y.line.length() ? y.line.charAt(i) : -11);
         }
-        char[] line = new char[y.line.length()];
-        for (int i = 0; i < line.length; i++) {
-            line[i] = (char) x.character(i);
-        }
-        same("line " + y.line + " is " + new String(line), Arrays.equals(line, y.line.toCharArray()) ? 1 : 0, 1);
-        same("behind the line", x.character(line.length), -11);
     }
 }

@@ -877,7 +877,8 @@ public final class UrnHeapTest {
             for (int slot = 0; slot < 4; slot++) {
                 all.append(x.threadOf(cell, slot)).append(' ');
             }
-            all.append(x.due(cell)).append(' ').append(x.grey(cell)).append(' ').append(x.freed(cell)).append(' ');
+            all.append(x.due(cell)).append(' ').append(x.grey(cell)).append(' ');
+            all.append(cell < 12 ? x.freed(cell) : NONE).append(' ');
             all.append(x.depth(cell)).append(' ').append(x.keepers(cell)).append(' ').append(x.ring(cell)).append(' ');
         }
         for (int name = 0; name < 6; name++) {
@@ -943,26 +944,40 @@ public final class UrnHeapTest {
         }
     }
 
+    /** Each picture is of an object of its own, as one takes most of the 512 calls. */
     private static void eachChangeUndone() {
         for (int parts = 0; parts < 16; parts++) {
+            String before = picture(busy(parts));
             for (int kind = 0; kind < 13; kind++) {
                 UrnHeap x = busy(parts);
-                String before = picture(x);
-                x.save();
                 int result = change(x, kind);
                 boolean isDone = result != NONE && result != BAD && result != REFUSED;
                 String after = picture(x);
                 String what = "change " + kind + " after " + parts + " parts";
                 dueText(what + " changes something", isDone + "", !after.equals(before) + "");
-                if (isDone) {
-                    due(what + " undone", x.undo(), 7);
-                }
-                dueText(what + " undone", picture(x), before);
-                dueText(what + " done again", change(x, kind) + picture(x), result + after);
-                x.restore();
-                dueText(what + " restored", picture(x), before);
+                dueText(what + " undone", picture(doneAndUndone(parts, kind, isDone)), before);
+                UrnHeap again = doneAndUndone(parts, kind, isDone);
+                dueText(what + " done again", change(again, kind) + picture(again), result + after);
+                dueText(what + " restored", picture(doneAndRestored(parts, kind)), before);
             }
         }
+    }
+
+    private static UrnHeap doneAndUndone(int parts, int kind, boolean isDone) {
+        UrnHeap x = busy(parts);
+        change(x, kind);
+        if (isDone) {
+            due("undone", x.undo(), 7);
+        }
+        return x;
+    }
+
+    private static UrnHeap doneAndRestored(int parts, int kind) {
+        UrnHeap x = busy(parts);
+        x.save();
+        change(x, kind);
+        x.restore();
+        return x;
     }
 
     private static void documentExamples() {
