@@ -534,7 +534,7 @@ public final class UrnHeap {
                     threads[thread] = NOTHING;
                 }
             }
-            late[urnsFreed % LATE] = cell;
+            late[Math.floorMod(urnsFreed, LATE)] = cell;
             urnsFreed++;
         }
 
@@ -1004,14 +1004,14 @@ public final class UrnHeap {
         }
 
         void keepBefore() {
-            Heap kept = past[next];
+            Heap kept = copyAtNext();
             if (kept != null) {
                 kept.copyFrom(now);
             }
         }
 
         void takeBack() {
-            Heap kept = past[next];
+            Heap kept = copyAtNext();
             if (kept != null) {
                 now.copyFrom(kept);
             }
@@ -1048,6 +1048,10 @@ public final class UrnHeap {
             now.copyFrom(saved);
             changes = 0;
             return now.urns();
+        }
+
+        private Heap copyAtNext() {
+            return next >= 0 && next < past.length ? past[next] : null;
         }
     }
 
